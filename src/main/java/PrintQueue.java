@@ -320,7 +320,7 @@ public final class PrintQueue {
     public int doubled(int job, int i) throws NoSuchElementException, IndexOutOfBoundsException {
         Job found = findJob(job);
         int before = 0;
-        for (int row = 0; row < doubledCount; row++) {
+        for (int row = 0; row < doubledCount && row < MOST_DOUBLED; row++) {
             if (doubledJobs[row] == found.number) {
                 if (before == i) {
                     return doubledPages[row];

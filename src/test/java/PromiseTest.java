@@ -32,6 +32,7 @@ public final class PromiseTest {
         promise14();
         promise14Printed();
         promise15();
+        mostDoubledPages();
         callsBeyondTheLimit();
         check.end();
     }
@@ -218,18 +219,17 @@ public final class PromiseTest {
         q.printer(3, 2);
         q.ticket(3, 1, 0);
         q.ticket(4, 1, 0);
-        for (int i = 0; i < 6; i++) {
-            q.job(2, 1, 1, 5, i);
-            q.job(1, 1, 1, 5, 20 + i);
+        for (int i = 1; i <= 12; i++) {
+            q.job(1 + i % 2, 1, 1, 5, i);
         }
         // Three of the media that is in, then the earliest; with the media changed the count begins anew.
-        int[] order = {2, 4, 6, 1, 3, 5, 7, 9, 11, 8, 10, 12, 0};
+        int[] order = {2, 4, 6, 1, 3, 5, 7, 8, 10, 12, 9, 11, 0};
         for (int job : order) {
             takes(q, 1, 50, job);
             prints(q, 1, 1, job == 0 ? 0 : 1);
         }
         account(q, 1, 6, 6, 1, 0);
-        account(q, 2, 6, 6, 1, 0);
+        account(q, 2, 6, 6, 2, 0);
 
         PrintQueue ranks = new PrintQueue();
         ranks.printer(3, 1);
@@ -616,6 +616,26 @@ public final class PromiseTest {
         takes(q, 1, 9, 2);
     }
 
+    /** As many doubled pages as 512 calls can make and tell. */
+    private static void mostDoubledPages() {
+        check.topic("most doubled pages");
+        PrintQueue q = new PrintQueue();
+        q.printer(0, 1);
+        q.ticket(0, 1, 0);
+        q.job(1, 500, 1, 0, 0);
+        takes(q, 1, 0, 1);
+        prints(q, 1, 499, 499);
+        faults(q, 1, 499);
+        for (int i = 1; i < 253; i++) {
+            takes(q, 1, 0, 1);
+            faults(q, 1, 499 - i);
+        }
+        check.due(253, "doubled(1, -1)", () -> q.doubled(1, -1));
+        check.due(1499, "doubled(1, 0)", () -> q.doubled(1, 0));
+        check.due(1247, "doubled(1, 252)", () -> q.doubled(1, 252));
+        check.thrown(OUTSIDE, "doubled(1, 253)", () -> q.doubled(1, 253));
+    }
+
     /** What they answer is free, but nothing undocumented may be thrown. */
     private static void callsBeyondTheLimit() {
         check.topic("beyond 512 calls");
@@ -626,5 +646,6 @@ public final class PromiseTest {
             prints(q, 1, 1, 1);
             faults(q, 1, 1);
         }
+        check.thrown(OUTSIDE, "doubled(1, 2000)", () -> q.doubled(1, 2000));
     }
 }
