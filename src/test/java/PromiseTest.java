@@ -451,6 +451,7 @@ public final class PromiseTest {
         faults(q, 2, 2);
         takes(q, 2, 0, 1);
         prints(q, 2, 0, 0);
+        account(q, 2, 2, 1, 0, 1);
         prints(q, 2, 1, 1);
         account(q, 2, 3, 2, 0, 1);
         prints(q, 2, 2, 2);
