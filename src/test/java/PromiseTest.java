@@ -1,17 +1,5 @@
-import java.util.NoSuchElementException;
-
 /** One method a promise of the document: ordinary inputs, edges and wrong inputs. */
-public final class PromiseTest {
-    private static final Class<NoSuchElementException> NO_SUCH = NoSuchElementException.class;
-    private static final Class<IllegalArgumentException> BAD = IllegalArgumentException.class;
-    private static final Class<UnsupportedOperationException> FULL = UnsupportedOperationException.class;
-    private static final Class<IllegalStateException> BUSY = IllegalStateException.class;
-    private static final Class<IndexOutOfBoundsException> OUTSIDE = IndexOutOfBoundsException.class;
-    private static final int MOST = Integer.MAX_VALUE;
-    private static final int LEAST = Integer.MIN_VALUE;
-
-    private static final Check check = new Check();
-
+public final class PromiseTest extends Asking {
     public static void main(String[] args) {
         promise1();
         promise2();
@@ -35,42 +23,6 @@ public final class PromiseTest {
         mostDoubledPages();
         callsBeyondTheLimit();
         check.end();
-    }
-
-    /** Printers and tickets 1 of one side and 2 of two, all of media 0. */
-    private static PrintQueue pair() {
-        PrintQueue q = new PrintQueue();
-        q.printer(0, 1);
-        q.printer(0, 2);
-        q.ticket(0, 1, 0);
-        q.ticket(0, 2, 0);
-        return q;
-    }
-
-    private static void state(PrintQueue q, int job, int kind, int pages, int copies, int parts) {
-        check.due(kind, "state(" + job + ", 0)", () -> q.state(job, 0));
-        check.due(pages, "state(" + job + ", 1)", () -> q.state(job, 1));
-        check.due(copies, "state(" + job + ", 2)", () -> q.state(job, 2));
-        check.due(parts, "state(" + job + ", 3)", () -> q.state(job, 3));
-    }
-
-    private static void account(PrintQueue q, int ticket, int pages, int sheets, int changes, int doubled) {
-        check.due(pages, "account(" + ticket + ", 0)", () -> q.account(ticket, 0));
-        check.due(sheets, "account(" + ticket + ", 1)", () -> q.account(ticket, 1));
-        check.due(changes, "account(" + ticket + ", 2)", () -> q.account(ticket, 2));
-        check.due(doubled, "account(" + ticket + ", 3)", () -> q.account(ticket, 3));
-    }
-
-    private static void takes(PrintQueue q, int printer, long t, int job) {
-        check.due(job, "take(" + printer + ", " + t + ")", () -> q.take(printer, t));
-    }
-
-    private static void prints(PrintQueue q, int printer, int pages, int out) {
-        check.due(out, "print(" + printer + ", " + pages + ")", () -> q.print(printer, pages));
-    }
-
-    private static void faults(PrintQueue q, int printer, int page) {
-        check.due(page, "fault(" + printer + ")", () -> q.fault(printer));
     }
 
     private static void promise1() {
