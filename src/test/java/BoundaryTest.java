@@ -562,11 +562,7 @@ public final class BoundaryTest extends Asking {
 
     private static void rankOfThoseThatMayBeTaken() {
         begin(5, "of those that may be taken only those");
-        PrintQueue q = new PrintQueue();
-        q.printer(0, 1);
-        q.printer(0, 2);
-        q.ticket(0, 1, 0);
-        q.ticket(0, 2, 0);
+        PrintQueue q = pair();
         for (int i = 1; i <= 3; i++) {
             q.job(1, 1, 1, 9, 0);
         }
@@ -1204,6 +1200,8 @@ public final class BoundaryTest extends Asking {
         takes(q, 1, 4, 0);
         reasons(q, 1, 2);
         takes(q, 1, 5, 0);
+        reasons(q, 1, 5);
+        takes(q, 1, 6, 0);
         reasons(q, 1, 5);
         PrintQueue none = new PrintQueue();
         none.ticket(0, 1, 0);
