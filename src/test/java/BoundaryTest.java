@@ -83,6 +83,7 @@ public final class BoundaryTest extends Asking {
         likeNumberGrowsByEachTaking();
         likeNumberIsZeroBehindAChange();
         likeNumberIsThePrinters();
+        likeNumberChangesByTakingsAlone();
         mediaStaysIn();
     }
 
@@ -103,6 +104,7 @@ public final class BoundaryTest extends Asking {
     private static void promise8() {
         whatItWas();
         partsAtPrintersGoOn();
+        heldWhenDoneOrCancelled();
     }
 
     private static void promise9() {
@@ -129,6 +131,7 @@ public final class BoundaryTest extends Asking {
         sheetsOfOneSide();
         sheetsOfTwoSides();
         firstSheetBehindATaking();
+        firstSheetAtAnotherPrinter();
         changesOfATicket();
     }
 
@@ -139,6 +142,9 @@ public final class BoundaryTest extends Asking {
         reasonNoPrinterFits();
         reasonAllThatFitHaveParts();
         reasonOfAnyPartThatWaits();
+        reasonOfSeveralPartsThatWait();
+        reasonWithAPartAtAPrinter();
+        reasonAsksForNoMedia();
     }
 
     private static void promise14() {
@@ -709,6 +715,24 @@ public final class BoundaryTest extends Asking {
         takesAndPrints(q, 2, 1, 4);
     }
 
+    private static void likeNumberChangesByTakingsAlone() {
+        begin(5, "the LIKE number becomes 0; else it grows by 1");
+        PrintQueue q = twoMedia();
+        q.like(2);
+        q.job(1, 2, 1, 9, 1);
+        q.job(1, 2, 1, 8, 1);
+        takes(q, 1, 1, 1);
+        cancels(q, 1, 1);
+        takes(q, 1, 1, 2);
+        cancels(q, 2, 1);
+        takes(q, 1, 1, 0);
+        q.job(2, 1, 1, 0, 0);
+        q.job(1, 1, 1, 0, 1);
+        // Two were alike, whatever became of them, and nothing was taken since.
+        takesAndPrints(q, 1, 1, 3);
+        takesAndPrints(q, 1, 1, 4);
+    }
+
     private static void mediaStaysIn() {
         begin(5, "Taken with another media than that which is in, that is changed");
         PrintQueue q = twoMedia();
@@ -890,6 +914,26 @@ public final class BoundaryTest extends Asking {
         takes(q, 2, 0, 0);
         holds(q, 1, false, 1);
         takes(q, 2, 0, 1);
+    }
+
+    private static void heldWhenDoneOrCancelled() {
+        begin(8, "A job is held, or not: what it was");
+        PrintQueue q = twoMedia();
+        q.job(1, 1, 1, 0, 0);
+        q.job(1, 1, 1, 0, 0);
+        takes(q, 1, 0, 1);
+        holds(q, 1, true, 0);
+        prints(q, 1, 1, 1);
+        holds(q, 2, true, 0);
+        cancels(q, 2, 1);
+        for (int job = 1; job <= 2; job++) {
+            int ended = job;
+            // Neither the last page nor the cancelling has ended the hold.
+            check.due(1, "state(" + job + ", 4)", () -> q.state(ended, 4));
+            holds(q, job, false, 1);
+            holds(q, job, true, 0);
+            check.due(job + 1, "state(" + job + ", 0)", () -> q.state(ended, 0));
+        }
     }
 
     private static void partsThatAreNotOver() {
@@ -1139,6 +1183,22 @@ public final class BoundaryTest extends Asking {
         }
     }
 
+    private static void firstSheetAtAnotherPrinter() {
+        begin(12, "or the first behind .. the taking, at another printer");
+        PrintQueue q = pair();
+        q.printer(0, 2);
+        q.job(2, 6, 1, 0, 0);
+        takes(q, 2, 0, 1);
+        prints(q, 2, 4, 4);
+        faults(q, 2, 4);
+        takes(q, 3, 0, 1);
+        // Pages 4 | 5 6: page 4 is even, but on a sheet of its own.
+        prints(q, 3, 1, 1);
+        account(q, 2, 5, 3, 0, 1);
+        prints(q, 3, 50000, 2);
+        account(q, 2, 7, 4, 0, 1);
+    }
+
     private static void changesOfATicket() {
         begin(12, "2 changes");
         PrintQueue q = twoMedia();
@@ -1265,6 +1325,43 @@ public final class BoundaryTest extends Asking {
         reasons(q, 1, 5);
     }
 
+    private static void reasonOfSeveralPartsThatWait() {
+        begin(13, "3 no printer fits a part that waits; 4 all that fit have parts");
+        for (int first = 1; first <= 2; first++) {
+            PrintQueue q = pair();
+            q.job(2, 1, 3, 0, 0);
+            splits(q, 1, first, 1, 1);
+            splits(q, 1, 3 - first, 1, 1);
+            takes(q, 2, 0, 1);
+            // Nobody fits the part for printer 1; printer 2 fits its own part, but has another.
+            reasons(q, 1, 4);
+            prints(q, 2, 1, 1);
+            reasons(q, 1, 5);
+            takes(q, 2, 0, 1);
+            reasons(q, 1, 3);
+        }
+    }
+
+    private static void reasonWithAPartAtAPrinter() {
+        begin(13, "1 it is held, with a part at a printer and one that waits");
+        PrintQueue q = pair();
+        q.job(1, 1, 2, 0, 0);
+        splits(q, 1, 2, 1, 1);
+        takes(q, 1, 0, 1);
+        reasons(q, 1, 5);
+        q.hold(1, true);
+        reasons(q, 1, 1);
+        takes(q, 2, 0, 0);
+    }
+
+    private static void reasonAsksForNoMedia() {
+        begin(13, "5 one could take it, whatever media is in");
+        PrintQueue q = twoMedia();
+        q.job(2, 1, 1, 0, 0);
+        reasons(q, 1, 5);
+        takes(q, 1, 0, 1);
+    }
+
     private static void copiesBelowOne() {
         begin(14, "0 when .. copies are below 1");
         PrintQueue q = pair();
@@ -1338,6 +1435,9 @@ public final class BoundaryTest extends Asking {
         splits(q, 1, 1, 1, 1);
         takes(q, 1, 9, 1);
         splits(q, 1, 2, 1, 0);
+        // A printer that has a part may be named for a later one.
+        q.job(1, 1, 2, 0, 9);
+        splits(q, 2, 1, 1, 1);
         prints(q, 1, 1, 1);
         splits(q, 1, 2, 1, 0);
 
